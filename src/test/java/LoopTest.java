@@ -1,0 +1,126 @@
+/** Promises 11 (sample), 14 (signal) and 15 (state), and point 1 of a step. */
+public final class LoopTest {
+    public static void main(String[] args) {
+        Due due = new Due("LoopTest");
+        sampleBounds(due);
+        firstStep(due);
+        roundsDown(due);
+        meansOfVoltage(due);
+        meansOfFrequency(due);
+        integralHasBounds(due);
+        whats(due);
+        due.end();
+    }
+
+    private static void sampleBounds(Due due) {
+        GridConverter x = new GridConverter();
+        due.argument("a below", () -> x.sample(-32769, 0, 0));
+        due.argument("a above", () -> x.sample(32768, 0, 0));
+        due.argument("b below", () -> x.sample(0, -32769, 0));
+        due.argument("b above", () -> x.sample(0, 32768, 0));
+        due.argument("c below", () -> x.sample(0, 0, -32769));
+        due.argument("c above", () -> x.sample(0, 0, 32768));
+        due.same("no step", x.state(Ready.STEPS), 0);
+        due.same("no angle", x.signal(0), 0);
+        due.same("the edges", x.sample(-32768, 32767, -32768), 0);
+        due.same("the edges", x.sample(32767, -32768, 32767), 0);
+        due.same("two steps", x.state(Ready.STEPS), 2);
+    }
+
+    /** At the angle 0 the sine is 0 and the cosine 16384, so that the error is y * 16384 / (m + 1). */
+    private static void firstStep(Due due) {
+        GridConverter x = new GridConverter();
+        x.sample(0, 1024, 0);
+        due.same("m", x.signal(5), 2048);
+        due.same("error", x.signal(4), 14185);
+        due.same("integral", x.signal(3), 2 * 14185);
+        due.same("angle", x.signal(0), 21474836 + 202 * 14185);
+        due.same("voltage", x.signal(2), 42);
+        long sum = 32L * 21474836 + 202 * 14185;
+        due.same("frequency", x.signal(1), sum * 10000000 / 137438953472L);
+        GridConverter y = new GridConverter();
+        y.sample(1600, -800, -800);
+        due.same("m of a alone", y.signal(5), 4800);
+        due.same("error of a alone", y.signal(4), 0);
+        due.same("angle of no error", y.signal(0), 21474836);
+        y.sample(1600, -800, -800);
+        long sine = 327L * (32768 - 327) / 16384;
+        due.same("error at the second angle", y.signal(4), -4800 * sine / 4801);
+    }
+
+    private static void roundsDown(Due due) {
+        GridConverter x = new GridConverter();
+        x.sample(0, -1, 0);
+        due.same("m of x = 1, y = -2", x.signal(5), 2);
+        due.same("error towards 0", x.signal(4), -10922);
+        due.same("integral", x.signal(3), -21844);
+    }
+
+    private static void meansOfVoltage(Due due) {
+        GridConverter x = new GridConverter();
+        x.sample(1600, -800, -800);
+        due.same("one of sixteen", x.signal(2), 100);
+        x.sample(800, -400, -400);
+        due.same("two of sixteen", x.signal(2), 150);
+        Ready.zeros(x, 14);
+        due.same("sixteen", x.signal(2), 150);
+        Ready.zeros(x, 1);
+        due.same("without the first", x.signal(2), 50);
+        Ready.zeros(x, 1);
+        due.same("without both", x.signal(2), 0);
+        GridConverter y = new GridConverter();
+        y.sample(47, 23, 24);
+        due.same("47 / 48", y.signal(2), 0);
+        y.sample(1, 1, 0);
+        due.same("49 / 48", y.signal(2), 1);
+    }
+
+    private static void meansOfFrequency(Due due) {
+        GridConverter x = new GridConverter();
+        x.sample(0, 1024, 0);
+        Ready.zeros(x, 31);
+        due.same("error of nothing", x.signal(4), 0);
+        long pace = 21474836 + 2 * 14185;
+        due.same("32 paces", x.signal(1), (pace * 32 + 200 * 14185) * 10000000 / 137438953472L);
+        Ready.zeros(x, 1);
+        due.same("without the first", x.signal(1), pace * 32 * 10000000 / 137438953472L);
+        due.same("integral kept", x.signal(3), 2 * 14185);
+    }
+
+    /** Samples that are always ahead of the angle, or behind it, lead the integral to its bounds. */
+    private static void integralHasBounds(Due due) {
+        for (int sign = -1; sign <= 1; sign += 2) {
+            GridConverter x = new GridConverter();
+            for (int i = 0; i < 400; i++) {
+                push(x, sign);
+            }
+            due.same("integral at its bound", x.signal(3), sign * 4000000);
+            int angle = x.signal(0);
+            push(x, sign);
+            int pace = 21474836 + sign * 4000000 + 200 * x.signal(4);
+            due.same("pace at the bound", x.signal(0), angle + pace);
+        }
+    }
+
+    /** A sample some quarter of a turn ahead of the angle, or behind it. */
+    private static void push(GridConverter x, int sign) {
+        int quarter = (x.signal(0) + 536870912) >>> 30;
+        int side = sign * 8000;
+        switch (quarter) {
+            case 0: x.sample(0, side, -side); break;
+            case 1: x.sample(-side, side / 2, side / 2); break;
+            case 2: x.sample(0, -side, side); break;
+            default: x.sample(side, -side / 2, -side / 2); break;
+        }
+    }
+
+    private static void whats(Due due) {
+        GridConverter x = new GridConverter();
+        due.index("signal(-1)", () -> x.signal(-1));
+        due.index("signal(6)", () -> x.signal(6));
+        due.index("state(-1)", () -> x.state(-1));
+        due.index("state(12)", () -> x.state(12));
+        Ready.zeros(x, 3);
+        due.same("steps", x.state(Ready.STEPS), 3);
+    }
+}

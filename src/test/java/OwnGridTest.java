@@ -1,0 +1,108 @@
+/** Promises 12 (grid) and 13 (run). */
+public final class OwnGridTest {
+    public static void main(String[] args) {
+        Due due = new Due("OwnGridTest");
+        wrongGrids(due);
+        wrongRuns(due);
+        samplesOfGrid(due);
+        jumpsAddUp(due);
+        countsClosedSteps(due);
+        due.end();
+    }
+
+    private static void wrongGrids(Due due) {
+        GridConverter x = new GridConverter();
+        due.argument("amplitude -1", () -> x.grid(-1, 50000, 0));
+        due.argument("amplitude 20001", () -> x.grid(20001, 50000, 0));
+        due.argument("frequency 39999", () -> x.grid(1000, 39999, 0));
+        due.argument("frequency 70001", () -> x.grid(1000, 70001, 0));
+        due.state("no grid by these", () -> x.run(1));
+        x.grid(0, 40000, Integer.MIN_VALUE);
+        x.grid(20000, 70000, Integer.MAX_VALUE);
+        due.same("run(1)", x.run(1), 0);
+        GridConverter y = new GridConverter();
+        y.grid(10000, 50000, 0);
+        due.argument("a jump that is refused", () -> y.grid(20001, 50000, 1 << 30));
+        y.run(1);
+        due.same("did not turn the angle", y.signal(4), -2);
+        due.same("nor the amplitude", y.signal(5), 31110);
+    }
+
+    private static void wrongRuns(Due due) {
+        GridConverter x = new GridConverter();
+        due.argument("run(0): the argument first", () -> x.run(0));
+        due.state("run(1) without a grid", () -> x.run(1));
+        due.state("run(500) without a grid", () -> x.run(500));
+        due.argument("run(501) without a grid", () -> x.run(501));
+        x.grid(1000, 50000, 0);
+        due.argument("run(0)", () -> x.run(0));
+        due.argument("run(-1)", () -> x.run(-1));
+        due.argument("run(501)", () -> x.run(501));
+        due.same("no step by these", x.state(Ready.STEPS), 0);
+        x.run(500);
+        due.same("steps", x.state(Ready.STEPS), 500);
+    }
+
+    /** The same samples, reckoned here, must bring another object to the same signals. */
+    private static void samplesOfGrid(Due due) {
+        int[][] grids = {{10000, 50000, 0}, {20000, 70000, 123456789}, {777, 40000, -5}, {0, 50000, 7}};
+        for (int[] g : grids) {
+            GridConverter x = new GridConverter();
+            GridConverter y = new GridConverter();
+            x.grid(g[0], g[1], g[2]);
+            long w = g[2];
+            for (int i = 0; i < 60; i++) {
+                x.run(1);
+                y.sample(phase(g[0], w), phase(g[0], w - 1431655765L), phase(g[0], w + 1431655765L));
+                w += g[1] * 4294967296L / 10000000L;
+                for (int what = 0; what < 6; what++) {
+                    due.same("signal(" + what + ") of step " + i, x.signal(what), y.signal(what));
+                }
+            }
+        }
+    }
+
+    private static int phase(int amplitude, long w) {
+        long high = Math.floorMod(w + 1073741824L, 4294967296L) / 65536;
+        long u = high % 32768;
+        long sine = u * (32768 - u) / 16384;
+        return (int) (amplitude * (high < 32768 ? sine : -sine) / 16384);
+    }
+
+    private static void jumpsAddUp(Due due) {
+        GridConverter x = new GridConverter();
+        GridConverter y = new GridConverter();
+        x.grid(5000, 60000, 2000000000);
+        x.grid(9000, 50000, 2000000000);
+        y.grid(9000, 50000, -294967296);
+        x.run(5);
+        y.run(5);
+        due.same("jumps wrap", x.signal(4), y.signal(4));
+        x.grid(9000, 50000, 0);
+        x.run(5);
+        y.run(5);
+        due.same("a grid goes on at its angle", x.signal(4), y.signal(4));
+        x.grid(9000, 50000, 3);
+        x.grid(9000, 50000, -3);
+        x.run(5);
+        y.run(5);
+        due.same("there and back", x.signal(4), y.signal(4));
+        x.grid(9000, 50000, 1 << 29);
+        x.run(1);
+        y.run(1);
+        due.same("a jump", x.signal(4) > y.signal(4) + 5000, true);
+    }
+
+    private static void countsClosedSteps(Due due) {
+        GridConverter x = Ready.lenient();
+        x.set(2, 4);
+        x.set(11, 3);
+        x.check();
+        x.grid(0, 50000, 0);
+        due.same("run(2)", x.run(2), 0);
+        x.on();
+        due.same("closed at the ends of two, locked in the next", x.run(10), 2);
+        due.same("steps", x.state(Ready.STEPS), 12);
+        due.same("locked", x.state(Ready.LOCKED), 1);
+    }
+}
