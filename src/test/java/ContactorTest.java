@@ -156,6 +156,14 @@ public final class ContactorTest {
         due.same("each time that patience ends", x.state(Ready.EVENTS), 3);
         due.same("event 3", x.event(0, 0), 3);
         due.same("steps then", x.event(0, 1), 5);
+        GridConverter y = new GridConverter();
+        y.seen(true);
+        Ready.zeros(y, 5);
+        y.set(11, 3);
+        due.same("missed more than the new patience", y.state(Ready.MISSED), 5);
+        Ready.zeros(y, 1);
+        due.same("locked in the next step", y.state(Ready.LOCKED), 1);
+        due.same("missed anew", y.state(Ready.MISSED), 0);
     }
 
     private static void resets(Due due) {

@@ -23,6 +23,7 @@ public final class LoopTest {
         due.same("no step", x.state(Ready.STEPS), 0);
         due.same("no angle", x.signal(0), 0);
         due.same("the edges", x.sample(-32768, 32767, -32768), 0);
+        due.same("the greatest m", x.signal(5), 131090);
         due.same("the edges", x.sample(32767, -32768, 32767), 0);
         due.same("two steps", x.state(Ready.STEPS), 2);
     }

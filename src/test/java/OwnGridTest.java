@@ -5,6 +5,7 @@ public final class OwnGridTest {
         wrongGrids(due);
         wrongRuns(due);
         samplesOfGrid(due);
+        edgesOfGrid(due);
         jumpsAddUp(due);
         countsClosedSteps(due);
         due.end();
@@ -47,17 +48,41 @@ public final class OwnGridTest {
     private static void samplesOfGrid(Due due) {
         int[][] grids = {{10000, 50000, 0}, {20000, 70000, 123456789}, {777, 40000, -5}, {0, 50000, 7}};
         for (int[] g : grids) {
-            GridConverter x = new GridConverter();
-            GridConverter y = new GridConverter();
-            x.grid(g[0], g[1], g[2]);
-            long w = g[2];
-            for (int i = 0; i < 60; i++) {
-                x.run(1);
-                y.sample(phase(g[0], w), phase(g[0], w - 1431655765L), phase(g[0], w + 1431655765L));
-                w += g[1] * 4294967296L / 10000000L;
-                for (int what = 0; what < 6; what++) {
-                    due.same("signal(" + what + ") of step " + i, x.signal(what), y.signal(what));
+            sameSamples(due, g[0], g[1], g[2], 60);
+        }
+    }
+
+    /** Angles at which a phase is about to take its next height, and frequencies whose pace only just rounds so. */
+    private static void edgesOfGrid(Due due) {
+        int[] shifts = {0, 1431655765, -1431655765};
+        for (int shift : shifts) {
+            for (int turn = 0; turn < 8; turn++) {
+                for (int near = -1; near <= 1; near++) {
+                    sameSamples(due, 20000, 50000, shift + (turn << 29) + near, 2);
                 }
+            }
+        }
+        int[] frequencies = {40515, 40056};
+        for (int frequency : frequencies) {
+            int pace = (int) (frequency * 4294967296L / 10000000L);
+            for (int turn = 0; turn < 8; turn++) {
+                sameSamples(due, 20000, frequency, (turn << 29) - pace, 2);
+                sameSamples(due, 20000, frequency, (turn << 29) - pace - 1, 2);
+            }
+        }
+    }
+
+    private static void sameSamples(Due due, int amplitude, int frequency, int jump, int steps) {
+        GridConverter x = new GridConverter();
+        GridConverter y = new GridConverter();
+        x.grid(amplitude, frequency, jump);
+        long w = jump;
+        for (int i = 0; i < steps; i++) {
+            x.run(1);
+            y.sample(phase(amplitude, w), phase(amplitude, w - 1431655765L), phase(amplitude, w + 1431655765L));
+            w += frequency * 4294967296L / 10000000L;
+            for (int what = 0; what < 6; what++) {
+                due.same("signal(" + what + ") of step " + i, x.signal(what), y.signal(what));
             }
         }
     }
