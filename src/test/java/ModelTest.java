@@ -80,7 +80,8 @@ public final class ModelTest {
         boolean near = random.nextInt(3) == 0;
         int value = near ? bounds[random.nextInt(2)] + between(-1, 1) : between(bounds[0], bounds[1]);
         if (i >= 3 && i <= 6 && random.nextInt(4) != 0) {
-            value = new int[] {between(0, 9000), between(10500, 20000), between(40000, 49900), between(50100, 70000)}[i - 3];
+            int[] wide = {between(0, 9000), between(10500, 20000), between(40000, 49900), between(50100, 70000)};
+            value = wide[i - 3];
         }
         if (i == 2 && random.nextInt(3) != 0) {
             value = between(1, 10);
@@ -107,7 +108,8 @@ public final class ModelTest {
     }
 
     private void callSeen(String where, boolean closed) {
-        change(where + "seen(" + closed + ")", () -> nothing(() -> x.seen(closed)), () -> nothing(() -> model.seen(closed)));
+        change(where + "seen(" + closed + ")", () -> nothing(() -> x.seen(closed)),
+            () -> nothing(() -> model.seen(closed)));
     }
 
     private void callPower(String where) {
