@@ -16,6 +16,12 @@ public final class CurvesTest {
         trips(due);
         leastOfTwoTrips(due);
         tripsOpenWithoutEvent(due);
+        levelsAtTheirEnds(due);
+        timesAtTheirEnds(due);
+        eachCurveTrips(due);
+        noneAtFirst(due);
+        leastOfEachPairTrips(due);
+        tripsByEachKind(due);
         due.end();
     }
 
@@ -175,5 +181,111 @@ public final class CurvesTest {
         Ready.zeros(x, 4);
         due.same("never closed", x.state(Ready.ORDERED), 0);
         due.same("no event", x.state(Ready.EVENTS), 0);
+    }
+
+    /** "a LEVEL (0 .. 100000)": nothing lies under 0 or over 100000, all lies under 100000 and over 0. */
+    private static void levelsAtTheirEnds(Due due) {
+        int[][] rows = {{1, 0, 0}, {1, 100000, 5}, {2, 0, 5}, {2, 100000, 0}, {3, 0, 0}, {3, 100000, 5}, {4, 0, 5},
+            {4, 100000, 0}};
+        for (int[] row : rows) {
+            GridConverter x = new GridConverter();
+            x.curve(0, row[0], row[1], 1000);
+            x.sample(1600, -800, -800);
+            Ready.zeros(x, 4);
+            due.same("kind " + row[0] + ", level " + row[1], x.count(0), row[2]);
+        }
+        GridConverter y = new GridConverter();
+        y.curve(0, 1, 0, 1000);
+        y.curve(1, 2, 0, 1000);
+        Ready.zeros(y, 3);
+        due.same("a voltage of 0 is not under 0", y.count(0), 0);
+        due.same("nor over it", y.count(1), 0);
+    }
+
+    /** "a TIME (1 .. 1000 steps)", and a count of "at most its time". */
+    private static void timesAtTheirEnds(Due due) {
+        int[] times = {2, 3, 999, 1000};
+        for (int time : times) {
+            GridConverter x = Ready.lenient();
+            x.curve(5, 3, 50000, time);
+            Ready.wished(x);
+            x.grid(0, 50000, 0);
+            due.same("closed before its time of " + time, Ready.run(x, time - 1), time - 1);
+            due.same("the count before its time", x.count(5), time - 1);
+            due.same("open at its time of " + time, x.run(1), 0);
+            due.same("the count at its time", x.count(5), time);
+            due.same("its event", x.event(0, 0), 15);
+            due.same("its steps", x.event(0, 1), time - 1);
+            x.run(2);
+            due.same("the count behind its time", x.count(5), time);
+        }
+        GridConverter y = Ready.lenient();
+        y.curve(5, 3, 50000, 1);
+        Ready.wished(y);
+        y.sample(0, 0, 0);
+        due.same("a time of 1", y.count(5), 1);
+        due.same("a time of 1 trips in the first step", y.state(Ready.ORDERED), 0);
+    }
+
+    /** "TRIPS: the contactor is ordered open, if it was ordered closed (an EVENT 10 + its number)". */
+    private static void eachCurveTrips(Due due) {
+        for (int k = 0; k < 6; k++) {
+            GridConverter x = Ready.lenient();
+            x.curve(k, 1, 1, 1);
+            Ready.wished(x);
+            x.sample(1600, -800, -800);
+            Ready.zeros(x, 15);
+            due.same("closed", x.state(Ready.ORDERED), 1);
+            Ready.zeros(x, 1);
+            due.same("opened by " + k, x.state(Ready.ORDERED), 0);
+            due.same("its event", x.event(0, 0), 10 + k);
+            due.same("its steps", x.event(0, 1), 16);
+        }
+    }
+
+    /** "The least curve whose count is its time TRIPS". */
+    private static void leastOfEachPairTrips(Due due) {
+        for (int greater = 1; greater < 6; greater++) {
+            for (int less = 0; less < greater; less++) {
+                GridConverter x = Ready.lenient();
+                x.curve(greater, 1, 1, 1);
+                x.curve(less, 3, 50000, 17);
+                Ready.wished(x);
+                x.sample(1600, -800, -800);
+                Ready.zeros(x, 16);
+                due.same("the least of " + less + " and " + greater, x.event(0, 0), 10 + less);
+                due.same("one event", x.state(Ready.EVENTS), 2);
+            }
+        }
+    }
+
+    /** A kind, the level and the next one that the third sample is not beyond, for a voltage of 100. */
+    private static void tripsByEachKind(Due due) {
+        int[][] rows = {{1, 101, 100}, {2, 99, 100}, {3, 50000, 49999}, {4, 49998, 49999}};
+        for (int[] row : rows) {
+            due.same("kind " + row[0] + " beyond its level", closedAfterThree(row[0], row[1]), 0);
+            due.same("kind " + row[0] + " at its level", closedAfterThree(row[0], row[2]), 1);
+        }
+    }
+
+    private static int closedAfterThree(int kind, int level) {
+        GridConverter x = Ready.lenient();
+        x.curve(1, kind, level, 3);
+        Ready.wished(x);
+        x.sample(1600, -800, -800);
+        Ready.zeros(x, 2);
+        return x.state(Ready.ORDERED);
+    }
+
+    /** "none at first": whatever the grid is, no curve counts. */
+    private static void noneAtFirst(Due due) {
+        GridConverter x = Ready.wished(Ready.lenient());
+        x.sample(32767, -32768, 0);
+        Ready.zeros(x, 40);
+        for (int k = 0; k < 6; k++) {
+            due.same("curve " + k + " of no kind", x.count(k), 0);
+        }
+        due.same("closed once and not opened", x.state(Ready.EVENTS), 1);
+        due.same("by no curve", x.state(Ready.ORDERED), 1);
     }
 }

@@ -23,6 +23,13 @@ final class Due {
         same(call, got ? 1 : 0, want ? 1 : 0);
     }
 
+    void same(String call, long[] got, long[] want) {
+        same(call + ": how many answers", got.length, want.length);
+        for (int i = 0; i < Math.min(got.length, want.length); i++) {
+            same(call + ": answer " + i, got[i], want[i]);
+        }
+    }
+
     void index(String call, Call made) {
         thrown(call, made, IndexOutOfBoundsException.class);
     }
@@ -42,7 +49,7 @@ final class Due {
         }
     }
 
-    private void thrown(String call, Call made, Class<?> want) {
+    void thrown(String call, Call made, Class<?> want) {
         asked++;
         Class<?> got = null;
         try {

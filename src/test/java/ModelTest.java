@@ -1,9 +1,11 @@
 import java.util.Random;
 
-/** Runs of calls of all kinds, the same for the class and for the model; every state is looked at after each. */
+/** Runs of calls of all kinds, the same for the class and for the model; now and then all that shows is looked at. */
 public final class ModelTest {
-    private static final int RUNS = 600;
-    private static final int CALLS = 120;
+    private static final int RUNS = 4000;
+    /** The document says nothing of later ones; a look at all takes up to 58 of them. */
+    private static final int MOST_CALLS = 512;
+    private static final int LOOK = 58;
     private static final int[][] BOUNDS = {
         {0, 20000}, {1, 2000}, {1, 500}, {0, 20000}, {0, 20000}, {40000, 70000}, {40000, 70000}, {40000, 70000},
         {0, 2000}, {0, 1}, {0, 100}, {1, 200}};
@@ -16,6 +18,7 @@ public final class ModelTest {
     private final Random random;
     private final GridConverter x = new GridConverter();
     private final Model model = new Model();
+    private int calls;
 
     private ModelTest(Due due, long seed) {
         this.due = due;
@@ -29,9 +32,11 @@ public final class ModelTest {
             if (seed % 4 != 0) {
                 one.begin();
             }
-            for (int i = 0; i < CALLS; i++) {
-                one.call("run " + seed + ", call " + i + ": ");
+            int most = seed % 8 == 0 ? MOST_CALLS - 2 * LOOK : one.between(1, 150);
+            while (one.calls < most) {
+                one.call("run " + seed + ", call " + one.calls + ": ");
             }
+            one.look("run " + seed + " at its end");
         }
         due.end();
     }
@@ -58,7 +63,7 @@ public final class ModelTest {
             case 6: case 7: change(where + "on", () -> x.on() ? 1 : 0, model::on); break;
             case 8: callOff(where); break;
             case 9: callSeen(where, random.nextBoolean()); break;
-            case 10: callSeen(where, x.state(Ready.ORDERED) == 1); break;
+            case 10: callSeen(where, model.state(Ready.ORDERED) == 1); break;
             case 11: change(where + "reset", () -> x.reset() ? 1 : 0, model::reset); break;
             case 12: callPower(where); break;
             case 13: callSample(where); break;
@@ -150,6 +155,13 @@ public final class ModelTest {
 
     private void change(String call, Answer got, Answer want) {
         same(call, got, want);
+        if (random.nextInt(30) == 0) {
+            look(call);
+        }
+    }
+
+    private void look(String call) {
+        calls += LOOK;
         for (int what = 0; what < 12; what++) {
             due.same(call + ", then state(" + what + ")", x.state(what), model.state(what));
         }
@@ -158,13 +170,14 @@ public final class ModelTest {
             due.same(call + ", then count(" + what + ")", x.count(what), model.count(what));
         }
         due.same(call + ", then energy()", x.energy(), model.energy());
-        for (int i = 0; i < Math.min(16, x.state(Ready.EVENTS)); i++) {
+        for (int i = 0; i < Math.min(16, model.state(Ready.EVENTS)); i++) {
             due.same(call + ", then event(" + i + ", 0)", x.event(i, 0), model.event(i, 0));
             due.same(call + ", then event(" + i + ", 1)", x.event(i, 1), model.event(i, 1));
         }
     }
 
     private void same(String call, Answer got, Answer want) {
+        calls++;
         due.same(call, answered(got), answered(want));
     }
 

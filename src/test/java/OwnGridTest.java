@@ -8,6 +8,10 @@ public final class OwnGridTest {
         edgesOfGrid(due);
         jumpsAddUp(due);
         countsClosedSteps(due);
+        gridsAtTheirEnds(due);
+        jumpsAtTheirEnds(due);
+        runsAtTheirEnds(due);
+        closedAtTheEnd(due);
         due.end();
     }
 
@@ -129,5 +133,65 @@ public final class OwnGridTest {
         due.same("closed at the ends of two, locked in the next", x.run(10), 2);
         due.same("steps", x.state(Ready.STEPS), 12);
         due.same("locked", x.state(Ready.LOCKED), 1);
+    }
+
+    /** "its amplitude (0 .. 20000) and frequency (40000 .. 70000)": the ends are taken; m of the first step. */
+    private static void gridsAtTheirEnds(Due due) {
+        int[][] rows = {{0, 0}, {1, 2}, {19999, 62218}, {20000, 62221}};
+        int[] frequencies = {40000, 40001, 69999, 70000};
+        for (int[] row : rows) {
+            for (int frequency : frequencies) {
+                GridConverter x = new GridConverter();
+                x.grid(row[0], frequency, 0);
+                due.same("run(1)", x.run(1), 0);
+                due.same("m of " + row[0], x.signal(5), row[1]);
+            }
+        }
+    }
+
+    /** "its angle grows by jump (0 at first)", and wraps as it does by its frequency; jumps, and m of the step. */
+    private static void jumpsAtTheirEnds(Due due) {
+        int least = Integer.MIN_VALUE;
+        int greatest = Integer.MAX_VALUE;
+        int[][] rows = {{0, 0, 62221}, {greatest, 0, 62217}, {least, 0, 62221}, {greatest, 1, 62221},
+            {least, -1, 62217}, {least, least, 62221}, {greatest, greatest, 62217}, {greatest, least, 62217}};
+        for (int[] row : rows) {
+            GridConverter x = new GridConverter();
+            x.grid(5, 40000, row[0]);
+            x.grid(20000, 50000, row[1]);
+            x.run(1);
+            due.same("m of " + row[0] + " and " + row[1], x.signal(5), row[2]);
+        }
+        GridConverter y = new GridConverter();
+        y.grid(1, 50000, least - 21474836);
+        y.run(1);
+        due.same("before it wraps", y.signal(5), 0);
+        y.run(1);
+        due.same("at the least angle", y.signal(5), 2);
+    }
+
+    /** "So many steps (1 .. 500)". */
+    private static void runsAtTheirEnds(Due due) {
+        GridConverter x = Ready.wished(Ready.lenient());
+        x.grid(0, 50000, 0);
+        due.same("run(1)", x.run(1), 1);
+        due.same("steps", x.state(Ready.STEPS), 1);
+        due.same("run(500)", x.run(500), 500);
+        due.same("steps", x.state(Ready.STEPS), 501);
+        due.same("run(499)", x.run(499), 499);
+        due.same("steps", x.state(Ready.STEPS), 1000);
+    }
+
+    /** "How many steps there were with the contactor ordered closed at their ends": the one that opens it is none. */
+    private static void closedAtTheEnd(Due due) {
+        GridConverter x = Ready.lenient();
+        x.set(2, 3);
+        x.curve(0, 3, 50000, 8);
+        Ready.wished(x);
+        x.grid(0, 50000, 0);
+        due.same("closed in the third step, open in the eighth", x.run(10), 5);
+        due.same("closed", x.event(1, 1), 2);
+        due.same("opened", x.event(0, 1), 7);
+        due.same("not closed any more", x.run(10), 0);
     }
 }

@@ -44,4 +44,20 @@ final class Ready {
             x.sample(0, 0, 0);
         }
     }
+
+    /** Sixteen samples along a, so that the voltage is just this. */
+    static void sixteen(GridConverter x, int voltage) {
+        for (int i = 0; i < 16; i++) {
+            x.sample(voltage, -voltage / 2, -voltage + voltage / 2);
+        }
+    }
+
+    /** More steps than one run can have: how many of them were closed at their ends. */
+    static int run(GridConverter x, int n) {
+        int closed = 0;
+        for (int left = n; left > 0; left -= 500) {
+            closed += x.run(Math.min(left, 500));
+        }
+        return closed;
+    }
 }
