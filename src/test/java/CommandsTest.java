@@ -10,6 +10,7 @@ public final class CommandsTest {
         droops(due);
         slopes(due);
         energies(due);
+        energyOfTheActiveCommand(due);
         powersAtTheirEnds(due);
         nearerByAtMostRamp(due);
         targetNotBelowNothing(due);
@@ -187,6 +188,19 @@ public final class CommandsTest {
         y.grid(20000, 50000, 0);
         y.run(500);
         due.same("beyond an int", y.energy() > 190000000000L, true);
+    }
+
+    /** "The ENERGY (a long) grows by active * voltage": not by the wish, which can be more, nor by the reactive one. */
+    private static void energyOfTheActiveCommand(Due due) {
+        GridConverter x = with(0, 5000, 1, 2000, 9, 1);
+        x.power(2000, 4900);
+        x.sample(1600, -800, -800);
+        due.same("the wish", x.state(Ready.WISH), 2000);
+        due.same("active", x.state(Ready.ACTIVE), 994);
+        due.same("energy", x.energy(), 994 * 100);
+        x.power(2000, 5000);
+        x.sample(0, 0, 0);
+        due.same("no active one, no energy", x.energy(), 994 * 100);
     }
 
     /** "Sets the power (0 .. 20000) and the reactive one (-20000 .. 20000)": the ends are taken. */

@@ -237,7 +237,7 @@ public final class ContactorTest {
         due.same("closed by more than is needed", y.run(1), 1);
     }
 
-    /** The bounds of quiet voltages at 0 and at 20000: the least, the greatest, the voltage, and whether it is quiet. */
+    /** The bounds at 0 and at 20000: the least, the greatest quiet voltage, the voltage, and whether it is quiet. */
     private static void voltageBoundsAtTheirEnds(Due due) {
         int[][] rows = {{0, 0, 0, 1}, {0, 0, 1, 0}, {1, 20000, 0, 0}, {1, 20000, 1, 1}, {20000, 20000, 19999, 0},
             {20000, 20000, 20000, 1}, {20000, 20000, 20001, 0}, {0, 20000, 20000, 1}, {0, 20000, 20001, 0},

@@ -11,6 +11,7 @@ public final class RefusedTest {
 
     public static void main(String[] args) {
         Due due = new Due("RefusedTest");
+        statesAreAsTheySay(due);
         Refusal[] everywhere = {
             new Refusal(due, "new: ", GridConverter::new), new Refusal(due, "off: ", SetUp::off),
             new Refusal(due, "wished: ", SetUp::wished), new Refusal(due, "closed: ", SetUp::closed),
@@ -31,6 +32,20 @@ public final class RefusedTest {
         onIsRefused(due, everywhere[0], everywhere[4]);
         nothingIsDone(due, everywhere);
         due.end();
+    }
+
+    /** Ordered, seen, wished, locked, checked, missed: else the calls below would be made elsewhere than they say. */
+    private static void statesAreAsTheySay(Due due) {
+        GridConverter[] objects = {SetUp.off(), SetUp.unchecked(), SetUp.wished(), SetUp.closed(),
+            SetUp.lockedSeenClosed(), SetUp.lockedSeenOpen()};
+        int[][] rows = {{0, 0, 0, 0, 1, 0}, {0, 0, 0, 0, 0, 0}, {0, 0, 1, 0, 1, 0}, {1, 0, 1, 0, 1, 2},
+            {0, 1, 0, 1, 1, 2}, {0, 0, 0, 1, 1, 2}};
+        for (int i = 0; i < rows.length; i++) {
+            for (int what = 0; what < rows[i].length; what++) {
+                due.same("object " + i + ": state(" + what + ")", objects[i].state(what), rows[i][what]);
+            }
+            due.same("object " + i + ": a curve counts", objects[i].count(5) > 0, true);
+        }
     }
 
     /** The index is named first: a value that is wrong too, or on that is wished, makes no difference. */
