@@ -588,8 +588,8 @@ public final class GridConverter {
         private int total;
 
         void note(int number, int steps) {
-            numbers[total % KEPT] = number;
-            stepCounts[total % KEPT] = steps;
+            numbers[placeOf(total)] = number;
+            stepCounts[placeOf(total)] = steps;
             total++;
         }
 
@@ -598,15 +598,16 @@ public final class GridConverter {
         }
 
         int numberOf(int i) {
-            return numbers[placeOf(i)];
+            return numbers[placeOf(total - 1 - i)];
         }
 
         int stepsAt(int i) {
-            return stepCounts[placeOf(i)];
+            return stepCounts[placeOf(total - 1 - i)];
         }
 
-        private int placeOf(int i) {
-            return (total - 1 - i) % KEPT;
+        /** A floor modulus, for a total that wraps must not lead out of the ring. */
+        private static int placeOf(int nth) {
+            return Math.floorMod(nth, KEPT);
         }
     }
 }

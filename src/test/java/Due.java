@@ -23,6 +23,13 @@ final class Due {
         same(call, got ? 1 : 0, want ? 1 : 0);
     }
 
+    void same(String call, String got, String want) {
+        asked++;
+        if (!got.equals(want)) {
+            tell(call + " answered " + got + ", due is " + want);
+        }
+    }
+
     void same(String call, long[] got, long[] want) {
         same(call + ": how many answers", got.length, want.length);
         for (int i = 0; i < Math.min(got.length, want.length); i++) {

@@ -7,11 +7,16 @@ import java.util.TreeSet;
 
 /** The public face of the document, and nothing else that is not private (LANGUAGE.md, rule 1). */
 public final class FaceTest {
+    private static final String INDEX = " IndexOutOfBoundsException";
+    private static final String ARGUMENT = " IllegalArgumentException";
+    private static final String STATE = " IllegalStateException";
     private static final String[] METHODS = {
-        "int set(int, int)", "void curve(int, int, int, int)", "void stay(int, int, int, int)", "int check()",
-        "boolean on()", "boolean off()", "void seen(boolean)", "boolean reset()", "void power(int, int)",
-        "int sample(int, int, int)", "void grid(int, int, int)", "int run(int)", "int signal(int)", "int state(int)",
-        "int count(int)", "long energy()", "int event(int, int)"};
+        "int set(int, int)" + INDEX + ARGUMENT + STATE, "void curve(int, int, int, int)" + INDEX + ARGUMENT + STATE,
+        "void stay(int, int, int, int)" + INDEX + ARGUMENT + STATE, "int check()", "boolean on()" + STATE,
+        "boolean off()", "void seen(boolean)", "boolean reset()", "void power(int, int)" + ARGUMENT,
+        "int sample(int, int, int)" + ARGUMENT, "void grid(int, int, int)" + ARGUMENT,
+        "int run(int)" + ARGUMENT + STATE, "int signal(int)" + INDEX, "int state(int)" + INDEX,
+        "int count(int)" + INDEX, "long energy()", "int event(int, int)" + INDEX};
 
     public static void main(String[] args) throws ReflectiveOperationException {
         Due due = new Due("FaceTest");
@@ -39,7 +44,7 @@ public final class FaceTest {
                 due.same(m.getName() + " is a public name", publicNames.contains(m.getName()), false);
             }
         }
-        due.same("the methods are " + got, got.equals(want), true);
+        due.same("the methods", got.toString(), want.toString());
     }
 
     private static String faceOf(Method m) {
@@ -47,7 +52,11 @@ public final class FaceTest {
         for (Class<?> type : m.getParameterTypes()) {
             types.append(types.length() == 0 ? "" : ", ").append(type.getName());
         }
-        return m.getReturnType().getName() + " " + m.getName() + "(" + types + ")";
+        StringBuilder thrown = new StringBuilder();
+        for (Class<?> type : m.getExceptionTypes()) {
+            thrown.append(' ').append(type.getSimpleName());
+        }
+        return m.getReturnType().getName() + " " + m.getName() + "(" + types + ")" + thrown;
     }
 
     private static void fields(Due due) {
